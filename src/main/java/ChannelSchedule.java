@@ -604,7 +604,7 @@ public final class ChannelSchedule {
         return excess > 0 ? taken.time + 2 * excess : taken.time;
     }
 
-    /** The least start behind that of a booking at which another one of this duration does not conflict with it. */
+    /** The least start behind that of a booking at which one of this duration does not conflict with it. */
     private int freeAfter(int start, int end, boolean isSameWay, int duration) {
         if (!isSameWay) {
             return end + setup.clearance;
@@ -615,7 +615,7 @@ public final class ChannelSchedule {
         return byStart > byEnd ? byStart : byEnd;
     }
 
-    /** The greatest start ahead of that of a booking at which another one of this duration does not conflict with it. */
+    /** The greatest start ahead of that of a booking at which one of this duration does not conflict with it. */
     private int freeBefore(int start, int end, boolean isSameWay, int duration) {
         if (!isSameWay) {
             return start - setup.clearance - duration;
@@ -1329,7 +1329,7 @@ public final class ChannelSchedule {
         }
     }
 
-    /** The commands of the script that was read last. */
+    /** The commands of the script that was read last; what a command does not take is left over from others. */
     static final class Script {
         int count = 0;
         final int[] verbs = new int[MAX_COMMANDS];

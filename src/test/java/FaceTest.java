@@ -161,7 +161,8 @@ public final class FaceTest {
         String code = text.replaceAll("(?s)/\\*.*?\\*/", "").replaceAll("//[^\n]*", "");
         String[] strange = {"->", "::", "\\bfinally\\b", "\\btry\\b", "\\bcatch\\b", "\\bsynchronized\\b",
             "\\bassert\\b", "\\binstanceof\\b", "\\bMath\\.\\w+Exact\\b", "\\bSystem\\b", "\\bThread\\b",
-            "\\bRandom\\b", "\\bFile\\b", "\\bObject\\b", "\\bvar\\b", "\\blong\\b", "\\bstatic \\{", "\" \\+", "\\+ \"",
+            "\\bRandom\\b", "\\bFile\\b", "\\bObject\\b", "\\bvar\\b", "\\blong\\b", "\\bstatic \\{",
+            "\" \\+", "\\+ \"",
             "\\bequals\\b", "\\bhashCode\\b", "\\btoString\\b", "@"};
         for (String each : strange) {
             Check.same("false", "" + Pattern.compile(each).matcher(code).find(), "having " + each);

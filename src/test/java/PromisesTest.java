@@ -26,6 +26,7 @@ public final class PromisesTest {
         rowsOfBookings();
         slack();
         whyNotMovable();
+        fullSchedule();
         requests();
         feasibility();
         selection();
@@ -286,6 +287,10 @@ public final class PromisesTest {
         badSetup("chanel 1 1 1;ship a 1 0 1;", 1, 0);
         badSetup("Channel 1 1 1;ship a 1 0 1;", 1, 0);
         badSetup("channels 1 1 1;", 1, 0);
+        badSetup("dhannel 1 1 1;", 1, 0);
+        badSetup(" ".repeat(600), 1, 600);
+        badSetup("channel 1 1 1;" + "a".repeat(586), 1, 14);
+        badSetup("channel 1 1 " + "1".repeat(588), 1, 12);
         badSetup("channel", 1, 7);
         badSetup("channel ", 1, 8);
         badSetup("channel 1 1 1", 1, 13);
@@ -522,6 +527,8 @@ public final class PromisesTest {
             Check.argument(() -> x.conflictCount(0, true, i));
             Check.argument(() -> x.firstConflict(0, true, i));
         }
+        Check.due(0, () -> x.conflictCount(0, true, 0));
+        Check.due(NONE, () -> x.firstConflict(0, true, 0));
         Check.due(0, () -> x.conflictCount(0, true, 999));
         Check.due(NONE, () -> x.firstConflict(0, true, 999));
     }
@@ -691,6 +698,48 @@ public final class PromisesTest {
         }
     }
 
+    private static void fullSchedule() {
+        Check.part("promises 17 to 52 with 20 bookings");
+        ChannelSchedule x = full();
+        x.request(1, true, 10, 10);
+        for (int i = 1; i < 8; i++) {
+            x.request(1, false, 10 + 2 * i, 10 + 2 * i);
+        }
+        Check.due("20 8", () -> x.bookingCount() + " " + x.requestCount());
+        Check.due("1 0", () -> x.occupancy(48) + " " + x.occupancy(49));
+        Check.due(1181, () -> x.emptyMinutes(0, 1200));
+        Check.due(1152, () -> x.longestEmptyRun(0, 1200));
+        Check.due("1 0", () -> counts(x, 0, true, 48, 999));
+        Check.due(19, () -> x.firstConflict(0, true, 48));
+        Check.due(NONE, () -> x.firstConflict(0, true, 999));
+        Check.due(49, () -> x.earliestStart(0, true, 48));
+        Check.due(47, () -> x.latestStart(0, true, 49));
+        Check.due(19, () -> x.bestCancellation(0, true, 48));
+        Check.due(0, x::directionSwitches);
+        Check.due(20, x::longestConvoy);
+        Check.due(951, () -> x.slack(19));
+        Check.due(1, () -> x.slack(18));
+        Check.due(3, () -> x.whyNotMovable(18, 48));
+        Check.due(0, () -> x.whyNotMovable(19, 500));
+        Check.due(0, x::bestValue);
+        Check.due(false, () -> x.isSelected(7));
+        Check.due(16, x::waitingWeight);
+        Check.due(1, () -> x.servedWithout(0));
+        Check.due(0, () -> x.servedWithout(19));
+        Check.due(20.0f / 49.0f, x::utilization);
+        Check.due(1.0, x::meanTransit);
+        Check.due(0, x::inconsistencies);
+        Check.due(159, x::writeSchedule);
+        Check.index(() -> x.bookedShip(20));
+        Check.index(() -> x.withdraw(8));
+        Check.due(0, () -> x.moveBooking(0, 999));
+        Check.due(0, () -> x.advance(10));
+        Check.due(9, () -> x.advance(19));
+        Check.due(1, () -> x.withdraw(7));
+        Check.due(0, () -> x.cancel(19));
+        Check.due(19, x::bookingCount);
+    }
+
     // ---- promises 36 to 46
 
     private static void requests() {
@@ -781,6 +830,15 @@ public final class PromisesTest {
         x.advance(150);
         selected(x, "010101");
         Check.due(4, x::bestValue);
+        // the schedule forbids the request at the front
+        ChannelSchedule f = three();
+        f.book(1, true, 100);
+        f.request(0, false, 100, 100);
+        selected(f, "0");
+        Check.due(0, f::bestValue);
+        f.request(0, true, 102, 102);
+        f.request(2, false, 90, 110);
+        selected(f, "000");
         // two light ones against a heavy one of the same value: the lowest number wins
         ChannelSchedule y = loaded("channel 3 3 0;ship a 5 0 1;ship b 9 0 2;ship c 5 0 3;");
         for (int i = 0; i < 20; i++) {
@@ -1014,6 +1072,8 @@ public final class PromisesTest {
             Check.argument(() -> x.moveBooking(0, i));
         }
         Check.state(() -> x.moveBooking(0, 90));
+        Check.due(0, () -> x.moveBooking(0, 0));
+        x.undo();
         x.setThickness(4);
         Check.due(1, () -> x.moveBooking(0, 300));
         // 28 minutes of b from 100 on do not go with c at 100: only a, from 14 to 32, is served
@@ -1117,7 +1177,8 @@ public final class PromisesTest {
         Check.due("a>10-20 b<100-120", () -> written(x));
         Check.due(0, x::undo);
         Check.due(0, x::bookingCount);
-        script(x, "book b in 100;request a out 100 100;request a out 101 101;withdraw 0;move 0 200;ice 3;advance 7;", 7);
+        script(x, "book b in 100;request a out 100 100;request a out 101 101;withdraw 0;move 0 200;ice 3;"
+                + "advance 7;", 7);
         Check.due("a<101-111 b>200-220", () -> written(x));
         Check.due("3 7", () -> x.thickness() + " " + x.minute());
         Check.due(0, x::undo);
@@ -1166,6 +1227,9 @@ public final class PromisesTest {
         badScript("cancel ann;", 1, 7);
         badScript("cancel 00000;", 1, 7);
         badScript("cancel 1 1;", 1, 9);
+        badScript("took ann in 5;", 1, 0);
+        badScript("request ann in 5", 1, 16);
+        badScript("move 1", 1, 6);
         badScript("move 1;", 1, 6);
         badScript("move 1 1 1;", 1, 9);
         badScript("withdraw;", 1, 8);
@@ -1176,7 +1240,9 @@ public final class PromisesTest {
         badScript("book ann in 5;advance 1;cancel 12345;", 1, 31);
         // numbers are not checked by the parser
         script(new ChannelSchedule(), "ice 9999;", 0);
+        script(new ChannelSchedule(), "ice 9;ice 0;ice 0000;", 3);
         script(new ChannelSchedule(), "book ann in 9999;", 0);
+        script(new ChannelSchedule(), "ice 1;" + "\n".repeat(594), 1);
     }
 
     private static void scriptStops() {
@@ -1325,6 +1391,12 @@ public final class PromisesTest {
         Check.due("a>0-1 a<9-10", () -> written(x));
         Check.due(12, x::writeSchedule);
         Check.index(() -> x.outputByte(12));
+        // numbers at the change of their digits
+        ChannelSchedule z = loaded("channel 0 0 0;ship a 1 0 1;");
+        for (int start : new int[] {0, 8, 9, 10, 98, 99, 100, 998, 999}) {
+            z.book(0, true, start);
+        }
+        Check.due("a>0-1 a>8-9 a>9-10 a>10-11 a>98-99 a>99-100 a>100-101 a>998-999 a>999-1000", () -> written(z));
         // the longest output
         ChannelSchedule y = loaded("channel 0 0 9;ship abcdef 60 0 1;");
         for (int i = 0; i < 20; i++) {

@@ -255,9 +255,12 @@ public final class RandomRunsTest {
         int to = random.nextInt(6) == 0 ? edge() : start + random.nextInt(300);
         int booking = near(made.bookingCount());
         String trio = "(" + ship + "," + in + "," + start + ")";
-        both("conflictCount" + trio, () -> made.conflictCount(ship, in, start), () -> plain.conflictCount(ship, in, start));
-        both("firstConflict" + trio, () -> made.firstConflict(ship, in, start), () -> plain.firstConflict(ship, in, start));
-        both("earliestStart" + trio, () -> made.earliestStart(ship, in, start), () -> plain.earliestStart(ship, in, start));
+        both("conflictCount" + trio, () -> made.conflictCount(ship, in, start),
+                () -> plain.conflictCount(ship, in, start));
+        both("firstConflict" + trio, () -> made.firstConflict(ship, in, start),
+                () -> plain.firstConflict(ship, in, start));
+        both("earliestStart" + trio, () -> made.earliestStart(ship, in, start),
+                () -> plain.earliestStart(ship, in, start));
         both("latestStart" + trio, () -> made.latestStart(ship, in, start), () -> plain.latestStart(ship, in, start));
         if (random.nextInt(8) == 0) {
             both("bestCancellation" + trio, () -> made.bestCancellation(ship, in, start),
