@@ -1,4 +1,3 @@
-import java.nio.charset.StandardCharsets;
 import java.util.ArrayList;
 import java.util.List;
 
@@ -50,48 +49,8 @@ public final class PromisesTest {
 
     // ---- helpers
 
-    private static ChannelSchedule give(ChannelSchedule x, String text) {
-        byte[] bytes = text.getBytes(StandardCharsets.ISO_8859_1);
-        int before = x.truncate(0);
-        for (int i = 0; i < bytes.length; i += 20) {
-            int[] words = new int[5];
-            for (int j = 0; j < 20; j++) {
-                words[j / 4] = words[j / 4] << 8 | (i + j < bytes.length ? bytes[i + j] & 255 : 0);
-            }
-            before = x.append(words[0], words[1], words[2], words[3], words[4]);
-        }
-        if (before != bytes.length) {
-            x.truncate(bytes.length);
-        }
-        return x;
-    }
-
-    private static ChannelSchedule loaded(String text) {
-        ChannelSchedule x = give(new ChannelSchedule(), text);
-        x.load();
-        return x;
-    }
-
-    /** Headway 5, clearance 10, no ice: a takes 10 minutes, b 20, c 30; weights 1, 2, 3. */
-    private static ChannelSchedule three() {
-        return loaded("channel 5 10 0;ship a 10 0 1;ship b 20 0 2;ship c 30 0 3;");
-    }
-
-    /** Headway and clearance 0: every passage takes 1 minute, so that many fit. */
-    private static ChannelSchedule swift() {
-        return loaded("channel 0 0 0;ship a 1 0 1;ship b 1 0 2;");
-    }
-
-    private static ChannelSchedule full() {
-        ChannelSchedule x = swift();
-        for (int i = 0; i < 20; i++) {
-            x.book(0, true, 10 + 2 * i);
-        }
-        return x;
-    }
-
     private static void script(ChannelSchedule x, String text, Object due) {
-        give(x, text);
+        Given.give(x, text);
         Check.due(due, x::runScript);
     }
 
@@ -101,7 +60,7 @@ public final class PromisesTest {
     }
 
     private static void badSetup(String text, int code, int position) {
-        ChannelSchedule x = give(new ChannelSchedule(), text);
+        ChannelSchedule x = Given.give(new ChannelSchedule(), text);
         Check.argument(x::load);
         errors(x, code, position);
         Check.due(4, x::shipCount);
@@ -110,35 +69,12 @@ public final class PromisesTest {
     }
 
     private static void badScript(String text, int code, int position) {
-        ChannelSchedule x = give(new ChannelSchedule(), text);
+        ChannelSchedule x = Given.give(new ChannelSchedule(), text);
         Check.argument(x::runScript);
         errors(x, code, position);
         Check.state(x::undo);
         Check.argument(() -> x.truncate(1));
         Check.due(0, x::bookingCount);
-    }
-
-    private static String nameOf(ChannelSchedule x, int ship) {
-        StringBuilder name = new StringBuilder();
-        for (int i = 0; i < 6; i++) {
-            int index = i;
-            String letter = Check.answer(() -> x.shipNameByte(ship, index));
-            if (letter.startsWith("throws")) {
-                break;
-            }
-            name.append((char) Integer.parseInt(letter));
-        }
-        return name.toString();
-    }
-
-    private static String written(ChannelSchedule x) {
-        int length = x.writeSchedule();
-        StringBuilder text = new StringBuilder();
-        for (int i = 0; i < length; i++) {
-            text.append((char) x.outputByte(i));
-        }
-        Check.index(() -> x.outputByte(length));
-        return text.toString();
     }
 
     private static void starts(ChannelSchedule x, int... starts) {
@@ -164,7 +100,8 @@ public final class PromisesTest {
         Check.due(0, x::bookingsMade);
         Check.due(0, x::bookingsCancelled);
         Check.due(0, x::requestsServed);
-        Check.due("ann bob cid dot", () -> String.join(" ", nameOf(x, 0), nameOf(x, 1), nameOf(x, 2), nameOf(x, 3)));
+        Check.due("ann bob cid dot", () -> Given.nameOf(x, 0) + " " + Given.nameOf(x, 1) + " " + Given.nameOf(x, 2)
+                + " " + Given.nameOf(x, 3));
         int[][] due = {{20, 3, 4}, {18, 0, 9}, {30, 5, 2}, {17, 2, 7}};
         for (int i = 0; i < 4; i++) {
             int ship = i;
@@ -215,8 +152,8 @@ public final class PromisesTest {
         Check.due(20, () -> x.append(0x6368616e, 0x6e656c20, 0x31203220, 0x333b7368, 0x69702063));
         Check.due(40, () -> x.append(0x20342035, 0x20363b20, 0x20202020, 0x20202020, 0x20202020));
         Check.due(1, x::load);
-        Check.due("1 2 3 c 4 5 6", () -> x.headway() + " " + x.clearance() + " " + x.thickness() + " " + nameOf(x, 0)
-                + " " + x.transitTime(0) + " " + x.iceClass(0) + " " + x.weight(0));
+        Check.due("1 2 3 c 4 5 6", () -> x.headway() + " " + x.clearance() + " " + x.thickness() + " "
+                + Given.nameOf(x, 0) + " " + x.transitTime(0) + " " + x.iceClass(0) + " " + x.weight(0));
     }
 
     private static void load() {
@@ -231,14 +168,14 @@ public final class PromisesTest {
         x.advance(5);
         x.save(0);
         x.save(1);
-        give(x, "channel 0 30 9;ship\nabcdef 60 9 99 ; ship b 1 0 1;\n\n");
+        Given.give(x, "channel 0 30 9;ship\nabcdef 60 9 99 ; ship b 1 0 1;\n\n");
         Check.due(2, x::load);
         errors(x, 0, NONE);
         Check.due(2, x::shipCount);
         Check.due(0, x::headway);
         Check.due(30, x::clearance);
         Check.due(9, x::thickness);
-        Check.due("abcdef", () -> nameOf(x, 0));
+        Check.due("abcdef", () -> Given.nameOf(x, 0));
         Check.due(60, () -> x.transitTime(0));
         Check.due(19, () -> x.transitTime(1));
         Check.due(99, () -> x.weight(0));
@@ -252,29 +189,29 @@ public final class PromisesTest {
         errors(x, 1, 0);
         Check.due(2, x::shipCount);
         // no space is needed between a word and a number, nor round a semicolon
-        Check.due(1, () -> give(x, "channel0007 8 0009;ship a1 2 3;").load());
+        Check.due(1, () -> Given.give(x, "channel0007 8 0009;ship a1 2 3;").load());
         Check.due(7, x::headway);
         // ten ships are the most; literal words are names too
         StringBuilder ten = new StringBuilder("channel 1 1 1;");
         for (int i = 0; i < 10; i++) {
             ten.append("ship ").append(i == 3 ? "ship" : "n" + (char) ('a' + i)).append(" 1 0 1;");
         }
-        Check.due(10, () -> give(x, ten.toString()).load());
-        Check.due(3, () -> give(x, "ship").findShip());
-        Check.argument(() -> give(x, ten + "ship z 1 0 1;").load());
+        Check.due(10, () -> Given.give(x, ten.toString()).load());
+        Check.due(3, () -> Given.give(x, "ship").findShip());
+        Check.argument(() -> Given.give(x, ten + "ship z 1 0 1;").load());
         errors(x, 4, ten.length());
         Check.due(10, x::shipCount);
-        Check.argument(() -> give(x, ten + "shop z 1 0 1;").load());
+        Check.argument(() -> Given.give(x, ten + "shop z 1 0 1;").load());
         errors(x, 1, ten.length());
         // an error changes nothing else
-        ChannelSchedule y = three();
+        ChannelSchedule y = Given.three();
         y.book(0, true, 100);
         y.save(0);
         y.writeSchedule();
-        Check.argument(() -> give(y, "channel 9 9 9;ship z 1 1 100;").load());
+        Check.argument(() -> Given.give(y, "channel 9 9 9;ship z 1 1 100;").load());
         Check.due("5 10 0 3 1 10", () -> y.headway() + " " + y.clearance() + " " + y.thickness() + " " + y.shipCount()
                 + " " + y.bookingCount() + " " + y.transitTime(0));
-        Check.due("a", () -> nameOf(y, 0));
+        Check.due("a", () -> Given.nameOf(y, 0));
         Check.due((int) 'a', () -> y.outputByte(0));
         Check.due(0, y::undo);
         Check.due(1, () -> y.restore(0));
@@ -330,14 +267,14 @@ public final class PromisesTest {
         badSetup("channel 1 1 1:", 1, 13);
         badSetup("channel 1 1 1/", 1, 13);
         // the latest of the two methods counts
-        ChannelSchedule x = give(new ChannelSchedule(), "channel 99");
+        ChannelSchedule x = Given.give(new ChannelSchedule(), "channel 99");
         Check.argument(x::load);
         errors(x, 2, 8);
         script(x, "", 0);
         errors(x, 0, NONE);
         script(x, "advance 1 1", "throws IllegalArgumentException");
         errors(x, 1, 10);
-        Check.due(1, () -> give(x, "channel 1 1 1;ship a 1 0 1;").load());
+        Check.due(1, () -> Given.give(x, "channel 1 1 1;ship a 1 0 1;").load());
         errors(x, 0, NONE);
     }
 
@@ -345,7 +282,7 @@ public final class PromisesTest {
 
     private static void settings() {
         Check.part("promises 7 to 11");
-        ChannelSchedule x = loaded("channel 30 0 9;ship a 1 0 1;");
+        ChannelSchedule x = Given.loaded("channel 30 0 9;ship a 1 0 1;");
         Check.due(1, x::shipCount);
         Check.due(30, x::headway);
         Check.due(0, x::clearance);
@@ -360,7 +297,7 @@ public final class PromisesTest {
 
     private static void ships() {
         Check.part("promises 12 to 15");
-        ChannelSchedule x = loaded("channel 1 1 4;ship abcdef 60 0 99;ship b 1 9 1;ship c 5 4 50;");
+        ChannelSchedule x = Given.loaded("channel 1 1 4;ship abcdef 60 0 99;ship b 1 9 1;ship c 5 4 50;");
         Check.due(68, () -> x.transitTime(0));
         Check.due(1, () -> x.transitTime(1));
         Check.due(5, () -> x.transitTime(2));
@@ -387,17 +324,17 @@ public final class PromisesTest {
             Check.index(() -> x.shipNameByte(i, 0));
         }
         Check.part("promise 16");
-        Check.due(0, () -> give(x, "abcdef").findShip());
-        Check.due(1, () -> give(x, "b").findShip());
+        Check.due(0, () -> Given.give(x, "abcdef").findShip());
+        Check.due(1, () -> Given.give(x, "b").findShip());
         Check.due(1, x::findShip);
         Check.due(1, () -> x.truncate(1));
-        Check.element(() -> give(x, "").findShip());
-        Check.element(() -> give(x, "abcde").findShip());
-        Check.element(() -> give(x, "abcdefg").findShip());
-        Check.element(() -> give(x, "b ").findShip());
-        Check.element(() -> give(x, "\u0162".substring(1) + "z").findShip());
-        Check.element(() -> give(x, "B").findShip());
-        Check.element(() -> give(x, "b".repeat(600)).findShip());
+        Check.element(() -> Given.give(x, "").findShip());
+        Check.element(() -> Given.give(x, "abcde").findShip());
+        Check.element(() -> Given.give(x, "abcdefg").findShip());
+        Check.element(() -> Given.give(x, "b ").findShip());
+        Check.element(() -> Given.give(x, "\u0162".substring(1) + "z").findShip());
+        Check.element(() -> Given.give(x, "B").findShip());
+        Check.element(() -> Given.give(x, "b".repeat(600)).findShip());
         Check.due(600, () -> x.truncate(600));
     }
 
@@ -405,7 +342,7 @@ public final class PromisesTest {
 
     private static void bookings() {
         Check.part("promises 17 to 24");
-        ChannelSchedule x = three();
+        ChannelSchedule x = Given.three();
         Check.due(0, x::bookingCount);
         Check.index(() -> x.bookedShip(0));
         x.book(2, false, 100);
@@ -439,7 +376,7 @@ public final class PromisesTest {
         state(x, 0, true, false);
         state(x, 1, false, true);
         state(x, 2, false, false);
-        ChannelSchedule y = three();
+        ChannelSchedule y = Given.three();
         y.book(2, true, 10);
         y.book(2, true, 15);
         Check.due("0 1 1 2 2 1 0", () -> y.occupancy(9) + " " + y.occupancy(10) + " " + y.occupancy(14) + " "
@@ -458,7 +395,7 @@ public final class PromisesTest {
 
     private static void emptyChannel() {
         Check.part("promises 25 and 26");
-        ChannelSchedule x = three();
+        ChannelSchedule x = Given.three();
         Check.due(1201, () -> x.emptyMinutes(0, 1200));
         Check.due(1201, () -> x.longestEmptyRun(0, 1200));
         Check.due(1, () -> x.emptyMinutes(1200, 1200));
@@ -484,7 +421,7 @@ public final class PromisesTest {
 
     private static void conflicts() {
         Check.part("promises 27 and 28");
-        ChannelSchedule x = three();
+        ChannelSchedule x = Given.three();
         x.book(1, true, 100);
         x.book(1, true, 200);
         // the same way: a booking from 100 to 120; ship b (20), a (10), c (30)
@@ -508,12 +445,12 @@ public final class PromisesTest {
         x.setThickness(1);
         Check.due("2 1 0", () -> counts(x, 0, true, 112, 117, 118));
         // with headway and clearance 0 equal starts still conflict
-        ChannelSchedule y = swift();
+        ChannelSchedule y = Given.swift();
         y.book(0, true, 5);
         Check.due("0 1 0", () -> counts(y, 0, true, 4, 5, 6));
         Check.due("0 1 0", () -> counts(y, 0, false, 4, 5, 6));
         // with headway 0 nobody overtakes: equal ends are fine
-        ChannelSchedule z = loaded("channel 0 0 0;ship a 10 0 1;ship b 11 0 1;ship c 12 0 1;");
+        ChannelSchedule z = Given.loaded("channel 0 0 0;ship a 10 0 1;ship b 11 0 1;ship c 12 0 1;");
         z.book(1, true, 50);
         Check.due("1 0 0", () -> counts(z, 0, true, 50, 51, 52));
         Check.due("0 1", () -> counts(z, 2, true, 49, 50));
@@ -543,7 +480,7 @@ public final class PromisesTest {
 
     private static void freeStarts() {
         Check.part("promise 29");
-        ChannelSchedule x = three();
+        ChannelSchedule x = Given.three();
         Check.due(0, () -> x.earliestStart(0, true, 0));
         Check.due(999, () -> x.earliestStart(0, true, 999));
         x.book(1, true, 10);
@@ -562,7 +499,7 @@ public final class PromisesTest {
         Check.due(995, () -> x.earliestStart(2, true, 995));
         Check.due(NONE, () -> x.earliestStart(2, false, 999));
         Check.part("promise 30");
-        ChannelSchedule y = three();
+        ChannelSchedule y = Given.three();
         Check.due(0, () -> y.latestStart(2, true, 30));
         Check.due(NONE, () -> y.latestStart(2, true, 29));
         Check.due(NONE, () -> y.latestStart(2, true, 0));
@@ -592,7 +529,7 @@ public final class PromisesTest {
 
     private static void bestCancellation() {
         Check.part("promise 31");
-        ChannelSchedule x = three();
+        ChannelSchedule x = Given.three();
         Check.element(() -> x.bestCancellation(0, true, 0));
         Check.argument(() -> x.bestCancellation(0, true, -1));
         Check.argument(() -> x.bestCancellation(0, true, 1000));
@@ -608,7 +545,7 @@ public final class PromisesTest {
         Check.due(0, () -> x.bestCancellation(0, true, 12));
         Check.due(3, x::bookingCount);
         // no start at all counts as 1000, and loses against 999
-        ChannelSchedule y = three();
+        ChannelSchedule y = Given.three();
         y.book(1, true, 500);
         y.book(2, true, 998);
         Check.due(1, () -> y.bestCancellation(2, true, 999));
@@ -620,7 +557,7 @@ public final class PromisesTest {
 
     private static void rowsOfBookings() {
         Check.part("promises 32 and 33");
-        ChannelSchedule x = swift();
+        ChannelSchedule x = Given.swift();
         Check.due(0, x::directionSwitches);
         Check.due(0, x::longestConvoy);
         String ways = "ioooiiio";
@@ -637,7 +574,7 @@ public final class PromisesTest {
 
     private static void slack() {
         Check.part("promise 34");
-        ChannelSchedule x = three();
+        ChannelSchedule x = Given.three();
         x.book(0, true, 100);
         Check.due(899, () -> x.slack(0));
         x.book(1, true, 200);
@@ -650,7 +587,7 @@ public final class PromisesTest {
         Check.due(20, () -> x.slack(1));
         x.advance(300);
         Check.due(20, () -> x.slack(1));
-        ChannelSchedule y = three();
+        ChannelSchedule y = Given.three();
         y.book(2, true, 100);
         y.book(0, true, 125);
         Check.due(0, () -> y.slack(0));
@@ -664,7 +601,7 @@ public final class PromisesTest {
 
     private static void whyNotMovable() {
         Check.part("promise 35");
-        ChannelSchedule x = three();
+        ChannelSchedule x = Given.three();
         x.book(0, true, 10);
         x.book(0, true, 50);
         x.book(1, false, 100);
@@ -700,7 +637,7 @@ public final class PromisesTest {
 
     private static void fullSchedule() {
         Check.part("promises 17 to 52 with 20 bookings");
-        ChannelSchedule x = full();
+        ChannelSchedule x = Given.full();
         x.request(1, true, 10, 10);
         for (int i = 1; i < 8; i++) {
             x.request(1, false, 10 + 2 * i, 10 + 2 * i);
@@ -744,7 +681,7 @@ public final class PromisesTest {
 
     private static void requests() {
         Check.part("promises 36 to 40 and 46");
-        ChannelSchedule x = three();
+        ChannelSchedule x = Given.three();
         Check.due(0, x::requestCount);
         Check.due(0, x::waitingWeight);
         Check.index(() -> x.requestedShip(0));
@@ -774,7 +711,7 @@ public final class PromisesTest {
 
     private static void feasibility() {
         Check.part("promises 41 and 45");
-        ChannelSchedule x = three();
+        ChannelSchedule x = Given.three();
         x.book(1, true, 100);
         x.request(0, false, 90, 110);
         Check.due(3, () -> x.whyNotFeasible(0));
@@ -786,7 +723,7 @@ public final class PromisesTest {
         Check.due(NONE, () -> x.feasibleStart(0));
         Check.due(1, x::requestCount);
         // with 20 bookings nothing is feasible, but a latest minute in the past comes first
-        ChannelSchedule y = full();
+        ChannelSchedule y = Given.full();
         y.request(0, true, 60, 70);
         Check.due(2, () -> y.whyNotFeasible(0));
         Check.due(NONE, () -> y.feasibleStart(0));
@@ -795,7 +732,7 @@ public final class PromisesTest {
         Check.due(2, () -> y.whyNotFeasible(0));
         Check.due(1, () -> y.whyNotFeasible(1));
         // a slower ship ends later, so it may start sooner behind one that it must not overtake
-        ChannelSchedule z = three();
+        ChannelSchedule z = Given.three();
         z.book(2, true, 100);
         z.setThickness(5);
         z.request(0, true, 110, 112);
@@ -807,7 +744,7 @@ public final class PromisesTest {
 
     private static void selection() {
         Check.part("promises 42 and 43");
-        ChannelSchedule x = full();
+        ChannelSchedule x = Given.full();
         Check.due(0, x::bestValue);
         // all at 100: one of them; b is worth more
         x.request(0, true, 100, 100);
@@ -831,7 +768,7 @@ public final class PromisesTest {
         selected(x, "010101");
         Check.due(4, x::bestValue);
         // the schedule forbids the request at the front
-        ChannelSchedule f = three();
+        ChannelSchedule f = Given.three();
         f.book(1, true, 100);
         f.request(0, false, 100, 100);
         selected(f, "0");
@@ -840,7 +777,7 @@ public final class PromisesTest {
         f.request(2, false, 90, 110);
         selected(f, "000");
         // two light ones against a heavy one of the same value: the lowest number wins
-        ChannelSchedule y = loaded("channel 3 3 0;ship a 5 0 1;ship b 9 0 2;ship c 5 0 3;");
+        ChannelSchedule y = Given.loaded("channel 3 3 0;ship a 5 0 1;ship b 9 0 2;ship c 5 0 3;");
         for (int i = 0; i < 20; i++) {
             y.book(0, true, 200 + 5 * i);
         }
@@ -850,7 +787,7 @@ public final class PromisesTest {
         y.request(0, false, 28, 28);
         Check.due(2, y::bestValue);
         selected(y, "101");
-        ChannelSchedule z = loaded("channel 3 3 0;ship a 5 0 1;ship b 9 0 2;ship c 5 0 3;");
+        ChannelSchedule z = Given.loaded("channel 3 3 0;ship a 5 0 1;ship b 9 0 2;ship c 5 0 3;");
         for (int i = 0; i < 20; i++) {
             z.book(0, true, 200 + 5 * i);
         }
@@ -880,7 +817,7 @@ public final class PromisesTest {
 
     private static void servedWithout() {
         Check.part("promise 44");
-        ChannelSchedule x = three();
+        ChannelSchedule x = Given.three();
         x.book(1, true, 100);
         x.book(1, true, 200);
         x.request(0, false, 100, 100);
@@ -912,7 +849,7 @@ public final class PromisesTest {
 
     private static void statistics() {
         Check.part("promises 47 to 52");
-        ChannelSchedule x = three();
+        ChannelSchedule x = Given.three();
         Check.due(0.0f, x::utilization);
         Check.due(0.0, x::meanTransit);
         Check.due(0, x::inconsistencies);
@@ -940,7 +877,7 @@ public final class PromisesTest {
         Check.due("4 0 0", () -> x.bookingsMade() + " " + x.bookingsCancelled() + " " + x.requestsServed());
         Check.due(0, x::inconsistencies);
         // the greatest end need not be that of the last booking: with headway 0 two may end together
-        ChannelSchedule y = loaded("channel 0 0 0;ship a 10 0 1;ship b 9 0 1;");
+        ChannelSchedule y = Given.loaded("channel 0 0 0;ship a 10 0 1;ship b 9 0 1;");
         y.book(0, true, 10);
         y.book(1, true, 11);
         Check.due(0.5f, y::utilization);
@@ -954,7 +891,7 @@ public final class PromisesTest {
 
     private static void book() {
         Check.part("promise 53");
-        ChannelSchedule x = three();
+        ChannelSchedule x = Given.three();
         for (int i : new int[] {-1, 3, 10, MIN, MAX}) {
             Check.index(() -> x.book(i, true, -1));
             Check.index(() -> x.book(i, true, 0));
@@ -975,7 +912,7 @@ public final class PromisesTest {
         Check.state(() -> x.book(0, true, 199));
         Check.due(228, () -> x.book(0, true, 200));
         Check.due(5, x::bookingCount);
-        ChannelSchedule y = full();
+        ChannelSchedule y = Given.full();
         Check.state(() -> y.book(0, true, 900));
         Check.argument(() -> y.book(0, true, 1000));
         Check.due(20, y::bookingCount);
@@ -985,7 +922,7 @@ public final class PromisesTest {
 
     private static void request() {
         Check.part("promise 54");
-        ChannelSchedule x = three();
+        ChannelSchedule x = Given.three();
         for (int i : new int[] {-1, 3, MIN, MAX}) {
             Check.index(() -> x.request(i, true, -1, -1));
         }
@@ -1017,14 +954,14 @@ public final class PromisesTest {
         Check.due(200, () -> x.request(0, true, 200, 200));
         Check.due(undoable, x::undo);
         // with 20 bookings it waits
-        ChannelSchedule y = full();
+        ChannelSchedule y = Given.full();
         Check.due(NONE, () -> y.request(0, true, 900, 900));
         Check.due(1, () -> y.cancel(0));
     }
 
     private static void cancel() {
         Check.part("promise 55");
-        ChannelSchedule x = three();
+        ChannelSchedule x = Given.three();
         Check.index(() -> x.cancel(0));
         x.book(0, true, 10);
         x.book(1, true, 50);
@@ -1058,7 +995,7 @@ public final class PromisesTest {
 
     private static void moveBooking() {
         Check.part("promise 56");
-        ChannelSchedule x = three();
+        ChannelSchedule x = Given.three();
         Check.index(() -> x.moveBooking(0, 0));
         x.book(0, true, 10);
         x.book(1, true, 50);
@@ -1077,12 +1014,12 @@ public final class PromisesTest {
         x.setThickness(4);
         Check.due(1, () -> x.moveBooking(0, 300));
         // 28 minutes of b from 100 on do not go with c at 100: only a, from 14 to 32, is served
-        Check.due("a<14-32 b>50-70 c<100-130 a>300-310", () -> written(x));
+        Check.due("a<14-32 b>50-70 c<100-130 a>300-310", () -> Given.written(x));
         Check.due(1, () -> x.moveBooking(2, 999));
-        Check.due("a<14-32 b>50-70 b>100-128 a>300-310 c<999-1029", () -> written(x));
+        Check.due("a<14-32 b>50-70 b>100-128 a>300-310 c<999-1029", () -> Given.written(x));
         Check.state(() -> x.moveBooking(3, 64));
         Check.due(0, () -> x.moveBooking(3, 65));
-        Check.due("a<14-32 b>50-70 a>65-75 b>100-128 c<999-1029", () -> written(x));
+        Check.due("a<14-32 b>50-70 a>65-75 b>100-128 c<999-1029", () -> Given.written(x));
         Check.due(0, () -> x.moveBooking(2, 65));
         x.advance(14);
         Check.state(() -> x.moveBooking(0, 20));
@@ -1093,7 +1030,7 @@ public final class PromisesTest {
 
     private static void withdraw() {
         Check.part("promise 57");
-        ChannelSchedule x = three();
+        ChannelSchedule x = Given.three();
         x.book(1, true, 100);
         x.request(0, false, 100, 101);
         x.request(1, false, 102, 103);
@@ -1113,7 +1050,7 @@ public final class PromisesTest {
 
     private static void setThickness() {
         Check.part("promise 58");
-        ChannelSchedule x = loaded("channel 5 10 9;ship a 10 5 1;ship b 20 9 2;");
+        ChannelSchedule x = Given.loaded("channel 5 10 9;ship a 10 5 1;ship b 20 9 2;");
         for (int i : new int[] {-1, 10, MIN, MAX}) {
             Check.argument(() -> x.setThickness(i));
         }
@@ -1125,10 +1062,10 @@ public final class PromisesTest {
         Check.due(NONE, () -> x.request(0, false, 180, 190));
         Check.due(0, () -> x.setThickness(8));
         Check.due(1, () -> x.setThickness(7));
-        Check.due("a<75-89 b>100-120 b>200-220", () -> written(x));
+        Check.due("a<75-89 b>100-120 b>200-220", () -> Given.written(x));
         Check.due(0, () -> x.setThickness(6));
         Check.due(1, () -> x.setThickness(5));
-        Check.due("a<75-89 b>100-120 a<180-190 b>200-220", () -> written(x));
+        Check.due("a<75-89 b>100-120 a<180-190 b>200-220", () -> Given.written(x));
         Check.due(0, () -> x.setThickness(5));
         Check.due(5, x::thickness);
         Check.due(0, () -> x.setThickness(0));
@@ -1137,7 +1074,7 @@ public final class PromisesTest {
 
     private static void advance() {
         Check.part("promise 59");
-        ChannelSchedule x = three();
+        ChannelSchedule x = Given.three();
         for (int i : new int[] {0, -1, 501, MIN, MAX}) {
             Check.argument(() -> x.advance(i));
         }
@@ -1168,18 +1105,18 @@ public final class PromisesTest {
 
     private static void runScript() {
         Check.part("promise 60");
-        ChannelSchedule x = three();
+        ChannelSchedule x = Given.three();
         script(x, "", 0);
         Check.due(0, x::undo);
         script(x, "book a in 10;book\nb out 0100 ;request c in 10 20;cancel1;", 4);
         errors(x, 0, NONE);
         Check.argument(() -> x.truncate(1));
-        Check.due("a>10-20 b<100-120", () -> written(x));
+        Check.due("a>10-20 b<100-120", () -> Given.written(x));
         Check.due(0, x::undo);
         Check.due(0, x::bookingCount);
         script(x, "book b in 100;request a out 100 100;request a out 101 101;withdraw 0;move 0 200;ice 3;"
                 + "advance 7;", 7);
-        Check.due("a<101-111 b>200-220", () -> written(x));
+        Check.due("a<101-111 b>200-220", () -> Given.written(x));
         Check.due("3 7", () -> x.thickness() + " " + x.minute());
         Check.due(0, x::undo);
         Check.due("0 0 0", () -> x.thickness() + " " + x.minute() + " " + x.requestCount());
@@ -1251,7 +1188,7 @@ public final class PromisesTest {
             "request a in 0 1000;", "cancel 1;", "move 1 5;", "move 0 1000;", "move 0 9;", "withdraw 0;", "ice 10;",
             "advance 0;", "advance 501;"};
         for (String command : stopping) {
-            ChannelSchedule x = three();
+            ChannelSchedule x = Given.three();
             x.advance(10);
             script(x, "book a in 100;" + command + "book a in 200;", 1);
             starts(x, 100);
@@ -1259,11 +1196,11 @@ public final class PromisesTest {
             Check.due(1, x::undo);
             starts(x);
         }
-        ChannelSchedule x = three();
+        ChannelSchedule x = Given.three();
         script(x, "book a in 10;advance 10;cancel 0;ice 1;", 2);
         script(x, "move 0 50;ice 1;", 0);
         script(x, "advance 500;advance 500;advance 191;advance 190;", 2);
-        ChannelSchedule y = full();
+        ChannelSchedule y = Given.full();
         script(y, "book a in 900;ice 1;", 0);
         script(y, "request a in 900 900;".repeat(9), 8);
     }
@@ -1272,7 +1209,7 @@ public final class PromisesTest {
 
     private static void undo() {
         Check.part("promise 61");
-        ChannelSchedule x = three();
+        ChannelSchedule x = Given.three();
         Check.state(x::undo);
         for (int i = 0; i < 9; i++) {
             x.book(0, true, 100 + 10 * i);
@@ -1296,7 +1233,7 @@ public final class PromisesTest {
         x.save(0);
         x.advance(5);
         x.writeSchedule();
-        give(x, "book");
+        Given.give(x, "book");
         Check.due(5, x::undo);
         Check.due(4, () -> x.truncate(4));
         Check.due(0, x::minute);
@@ -1312,7 +1249,7 @@ public final class PromisesTest {
         Check.due((int) 'a', () -> x.outputByte(0));
         Check.due(4, () -> x.restore(0));
         // all of the state comes back, and a new change follows the undone one
-        ChannelSchedule y = three();
+        ChannelSchedule y = Given.three();
         y.book(1, true, 100);
         y.request(0, false, 100, 100);
         y.cancel(0);
@@ -1323,14 +1260,14 @@ public final class PromisesTest {
         Check.due(2, y::undo);
         Check.due("0 1", () -> y.thickness() + " " + y.requestCount());
         // errors and their text stay
-        Check.argument(() -> give(y, "ice").runScript());
+        Check.argument(() -> Given.give(y, "ice").runScript());
         y.undo();
         errors(y, 1, 3);
     }
 
     private static void saves() {
         Check.part("promises 62 and 63");
-        ChannelSchedule x = three();
+        ChannelSchedule x = Given.three();
         for (int i : new int[] {-1, 2, MIN, MAX}) {
             Check.index(() -> x.save(i));
             Check.index(() -> x.restore(i));
@@ -1359,7 +1296,7 @@ public final class PromisesTest {
         Check.due(0, x::undo);
         Check.due(0, x::bookingCount);
         x.writeSchedule();
-        give(x, "b");
+        Given.give(x, "b");
         Check.due(1, () -> x.restore(0));
         Check.due(1, x::findShip);
         Check.due(7, () -> x.startMinute(0));
@@ -1368,37 +1305,37 @@ public final class PromisesTest {
 
     private static void output() {
         Check.part("promises 64 and 65");
-        ChannelSchedule x = loaded("channel 0 0 0;ship a 1 0 1;ship abcdef 60 0 1;");
+        ChannelSchedule x = Given.loaded("channel 0 0 0;ship a 1 0 1;ship abcdef 60 0 1;");
         Check.index(() -> x.outputByte(0));
         Check.due(0, x::writeSchedule);
         Check.index(() -> x.outputByte(0));
         x.book(0, true, 0);
         Check.due(5, x::writeSchedule);
-        Check.due("a>0-1", () -> written(x));
+        Check.due("a>0-1", () -> Given.written(x));
         x.book(1, false, 999);
         x.book(0, false, 9);
         x.book(0, true, 99);
         Check.due("a>0-1", () -> "" + (char) x.outputByte(0) + (char) x.outputByte(1) + (char) x.outputByte(2)
                 + (char) x.outputByte(3) + (char) x.outputByte(4));
         Check.index(() -> x.outputByte(5));
-        Check.due("a>0-1 a<9-10 a>99-100 abcdef<999-1059", () -> written(x));
+        Check.due("a>0-1 a<9-10 a>99-100 abcdef<999-1059", () -> Given.written(x));
         Check.due(37, x::writeSchedule);
         for (int i : new int[] {-1, 37, 320, MIN, MAX}) {
             Check.index(() -> x.outputByte(i));
         }
         x.cancel(3);
         x.cancel(2);
-        Check.due("a>0-1 a<9-10", () -> written(x));
+        Check.due("a>0-1 a<9-10", () -> Given.written(x));
         Check.due(12, x::writeSchedule);
         Check.index(() -> x.outputByte(12));
         // numbers at the change of their digits
-        ChannelSchedule z = loaded("channel 0 0 0;ship a 1 0 1;");
+        ChannelSchedule z = Given.loaded("channel 0 0 0;ship a 1 0 1;");
         for (int start : new int[] {0, 8, 9, 10, 98, 99, 100, 998, 999}) {
             z.book(0, true, start);
         }
-        Check.due("a>0-1 a>8-9 a>9-10 a>10-11 a>98-99 a>99-100 a>100-101 a>998-999 a>999-1000", () -> written(z));
+        Check.due("a>0-1 a>8-9 a>9-10 a>10-11 a>98-99 a>99-100 a>100-101 a>998-999 a>999-1000", () -> Given.written(z));
         // the longest output
-        ChannelSchedule y = loaded("channel 0 0 9;ship abcdef 60 0 1;");
+        ChannelSchedule y = Given.loaded("channel 0 0 9;ship abcdef 60 0 1;");
         for (int i = 0; i < 20; i++) {
             y.book(0, true, 980 + i);
         }
@@ -1406,7 +1343,7 @@ public final class PromisesTest {
         for (int i = 0; i < 20; i++) {
             due.append(i == 0 ? "" : " ").append("abcdef>").append(980 + i).append("-").append(1058 + i);
         }
-        Check.due(due, () -> written(y));
+        Check.due(due, () -> Given.written(y));
         Check.due(20 * 16 - 1, y::writeSchedule);
     }
 }
