@@ -8,6 +8,7 @@ import java.util.ArrayList;
 import java.util.Arrays;
 import java.util.Collections;
 import java.util.List;
+import java.util.TreeMap;
 import java.util.TreeSet;
 import java.util.regex.Pattern;
 
@@ -87,7 +88,7 @@ public final class FaceTest {
     public static void main(String[] args) throws IOException {
         face();
         members();
-        source(Files.readString(Path.of(args[0])));
+        source(Files.readString(Path.of("src/main/java/ChannelSchedule.java")));
         Check.end("FaceTest");
     }
 
@@ -170,6 +171,75 @@ public final class FaceTest {
         Check.due("IllegalArgumentException IllegalStateException IndexOutOfBoundsException NoSuchElementException",
                 () -> thrown(code));
         Check.due(true, () -> longestMethod(code) <= 60);
+        objectsMade(code);
+        callDepth(code);
+    }
+
+    private static void objectsMade(String code) {
+        Check.part("rule 12: objects are made with the object itself, and no call makes any but what it throws");
+        for (Body body : bodies(code)) {
+            boolean isConstructor = Character.isUpperCase(body.name.charAt(0));
+            boolean makes = Pattern.compile("(?<!throw )\\bnew\\b|\\.clone\\(|\\bcopyOf").matcher(body.text).find();
+            Check.same("false", "" + (makes && !isConstructor), "making an object: " + body.name);
+            Check.same("false", "" + (isConstructor && body.text.contains("throw ")), "throwing: " + body.name);
+        }
+    }
+
+    private static void callDepth(String code) {
+        Check.part("rules 8 and 11: no recursion, and calls go at most eight deep");
+        TreeMap<String, TreeSet<String>> calls = new TreeMap<>();
+        List<Body> bodies = bodies(code);
+        for (Body body : bodies) {
+            calls.put(body.name, new TreeSet<>());
+        }
+        // one name for one method, so that names tell which ones are called; and no method was overlooked
+        Check.due(bodies.size(), calls::size);
+        TreeSet<String> declared = new TreeSet<>();
+        List<Class<?>> all = new ArrayList<>(Arrays.asList(ChannelSchedule.class.getDeclaredClasses()));
+        all.add(ChannelSchedule.class);
+        for (Class<?> each : all) {
+            for (Method m : each.getDeclaredMethods()) {
+                declared.add(m.getName());
+            }
+        }
+        declared.addAll(List.of("ChannelSchedule", "Setup"));
+        Check.due(declared, calls::keySet);
+        for (Body body : bodies) {
+            var call = Pattern.compile("\\b(\\w+)\\(").matcher(body.text);
+            while (call.find()) {
+                if (calls.containsKey(call.group(1))) {
+                    calls.get(body.name).add(call.group(1));
+                }
+            }
+        }
+        for (String name : calls.keySet()) {
+            Check.same("true", "" + (depth(name, calls, 1) <= 8), "eight calls deep at most: " + name);
+        }
+    }
+
+    /** How many calls stand open at once below this one, which is the depth-th; far too many if it calls itself. */
+    private static int depth(String name, TreeMap<String, TreeSet<String>> calls, int depth) {
+        int deepest = depth;
+        if (depth <= 20) {
+            for (String called : calls.get(name)) {
+                deepest = Math.max(deepest, depth(called, calls, depth + 1));
+            }
+        }
+        return deepest;
+    }
+
+    private record Body(String name, String text) {
+    }
+
+    /** The methods and constructors, by the indent of the lines that open and close them. */
+    private static List<Body> bodies(String code) {
+        List<Body> found = new ArrayList<>();
+        String opening = "^( {4}| {8})(?! )[^;{}=\n(]*\\b(\\w+)\\([^;{}]*\\{\n";
+        var method = Pattern.compile("(?ms)" + opening + "(.*?)^\\1\\}").matcher(code);
+        while (method.find()) {
+            found.add(new Body(method.group(2), method.group(3)));
+        }
+        return found;
     }
 
     private static String thrown(String code) {
@@ -181,12 +251,10 @@ public final class FaceTest {
         return String.join(" ", names);
     }
 
-    /** Counts lines from one that opens a method to the one that closes it with the same indent. */
     private static int longestMethod(String code) {
         int longest = 0;
-        var found = Pattern.compile("(?ms)^( {4}| {8})(?! )[^;{}\n]*\\([^;{}]*\\{\n.*?^\\1\\}").matcher(code);
-        while (found.find()) {
-            longest = Math.max(longest, (int) found.group().lines().count());
+        for (Body body : bodies(code)) {
+            longest = Math.max(longest, (int) body.text.lines().count() + 2);
         }
         return longest;
     }

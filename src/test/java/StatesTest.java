@@ -305,6 +305,15 @@ public final class StatesTest {
             Check.index(() -> x.transitTime(old));
         }
         Check.element(() -> Given.give(x, "a").findShip());
+        Check.part("promise 64: the output text is replaced by writing alone, not by a setup");
+        ChannelSchedule w = begun();
+        w.writeSchedule();
+        String output = Whole.output(w);
+        Check.due(1, () -> Given.give(w, text).load());
+        Check.due(output, () -> Whole.output(w));
+        Check.due(0, w::writeSchedule);
+        Check.index(() -> w.outputByte(0));
+        Check.part("promise 4: a valid setup replaces the whole state");
         // a state with everything full, and the same setup again
         ChannelSchedule y = Given.full();
         for (int i = 0; i < 8; i++) {
